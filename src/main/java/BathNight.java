@@ -646,8 +646,8 @@ public final class BathNight {
                 case 't': return takesTank(item);
                 case 'f': return takesStage(item);
                 case 'b': return takesBather(item);
-                case 'a': return takesAfter(item);
-                case 's': return takesWater(item);
+                case 'a':
+                case 's': return takesPair(item);
                 case 'k': return takesKettle(item);
                 default: return takesNumber(item);
             }
@@ -690,23 +690,17 @@ public final class BathNight {
             return true;
         }
 
-        private boolean takesAfter(Item item) {
+        private boolean takesPair(Item item) {
             Bather one = who(item.number(0));
             Bather other = who(item.number(1));
             if (!item.isPairOf(count) || one == null || other == null) {
                 return false;
             }
-            one.after |= other.bit;
-            return true;
-        }
-
-        private boolean takesWater(Item item) {
-            Bather one = who(item.number(0));
-            Bather other = who(item.number(1));
-            if (!item.isPairOf(count) || one == null || other == null) {
-                return false;
+            if (item.letter == 'a') {
+                one.after |= other.bit;
+            } else {
+                one.waterOf |= other.bit;
             }
-            one.waterOf |= other.bit;
             return true;
         }
 
@@ -898,13 +892,14 @@ public final class BathNight {
             return layer < 0 || layer >= layers ? cold * part : units[layer] * part / pints;
         }
 
+        /** Units of the top h pints, no more than the tank holds. */
         int unitsOfTop(int h) {
             int whole = h / pints;
             int sum = 0;
             for (int k = 0; k < whole && k < layers; k++) {
                 sum += units[k];
             }
-            return sum + unitsOfPart(whole, h % pints);
+            return whole < 0 || whole >= layers ? sum : sum + units[whole] * (h % pints) / pints;
         }
 
         void draw(int h) {
@@ -931,7 +926,7 @@ public final class BathNight {
                 // the pint that brings them; and a layer no warmer than cold water brings none
                 if (warmer > 0) {
                     int part = (missing * pints + warmer - 1) / warmer;
-                    if (part <= Math.min(pints, most - k * pints)) {
+                    if (part <= pints && k * pints + part <= most) {
                         return k * pints + part;
                     }
                 }
