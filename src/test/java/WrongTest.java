@@ -5,9 +5,11 @@ public final class WrongTest {
     private static final String HOUSE = "t6,60,40,95,999;f3,9999,30;c9;b99,40,99,20,60,99;b1,0,99,1,0,0;a0,1;s0,1;k20,1;n60;";
 
     public static void main(String[] args) {
-        everyNumber(new BathNight(), 0, 1, 40);
-        everyNumber(Check.laid(HOUSE), 2, 6, 60);
-        everyNumber(Check.laid("t1,1,0,0,0;b1,0,0,1,0,0;n1;"), 1, 1, 1);
+        for (int n : NUMBERS) {
+            everyCall(n, new BathNight(), 0, 1, 40);
+            everyCall(n, Check.laid(HOUSE), 2, 6, 60);
+            everyCall(n, Check.laid("t1,1,0,0,0;b1,0,0,1,0,0;n1;"), 1, 1, 1);
+        }
         thingsOfEveryKind();
         nothingChanges();
         Check.end();
@@ -21,48 +23,46 @@ public final class WrongTest {
         return n >= low && n <= high;
     }
 
-    private static void everyNumber(BathNight x, int bathers, int layers, int steps) {
+    private static void everyCall(int n, BathNight x, int bathers, int layers, int steps) {
         boolean any = bathers > 0;
-        for (int n : NUMBERS) {
-            bad("write(" + n + ")", x.write(n, n), in(n, 1, 8));
-            x.wipe();
-            bad("bather(n, 0) " + n, x.bather(n, 0), in(n, 0, bathers - 1));
-            bad("bather(0, n) " + n, x.bather(0, n), any && in(n, 0, 7));
-            bad("drawn(0, n) " + n, x.drawn(0, n), in(n, -1, layers - 1));
-            bad("drawn(n, 0) " + n, x.drawn(n, 0), in(n, 0, x.drawn(11, 0) == BathNight.BAD ? layers == 1 && bathers == 1 ? 1 : 10 : 360));
-            bad("bath(n, true, 0) " + n, x.bath(n, true, 0), in(n, 0, bathers - 1));
-            bad("bath(0, true, n) " + n, x.bath(0, true, n), any && in(n, 0, 1));
-            bad("row(n, 0) " + n, x.row(n, 0), in(n, 0, bathers - 1));
-            bad("row(0, n) " + n, x.row(0, n), any && in(n, 0, bathers - 1));
-            bad("hot(n) " + n, x.hot(n), in(n, 0, 99));
-            bad("plan(n, true) " + n, x.plan(n, true), in(n, 0, 59));
-            bad("plan(n, false) " + n, x.plan(n, false), in(n, 0, 59));
-            bad("evening(n, 0, 0) " + n, x.evening(n, 0, 0), any && in(n, 0, 3));
-            bad("evening(0, n, 0) " + n, x.evening(0, n, 0), in(n, 0, bathers - 1));
-            bad("evening(0, 0, n) " + n, x.evening(0, 0, n), any && in(n, 0, 3));
-            bad("score(n, 0) " + n, x.score(n, 0), in(n, 0, 3));
-            bad("score(0, n) " + n, x.score(0, n), in(n, 0, 2));
-            bad("left(n, 0) " + n, x.left(n, 0), in(n, 0, 3));
-            bad("left(0, n) " + n, x.left(0, n), in(n, 0, layers - 1) || in(n, 6, 7));
-            bad("best(n) " + n, x.best(n), in(n, -1, bathers - 1));
-            bad("when(n, 0) " + n, x.when(n, 0), in(n, 0, 3));
-            bad("when(0, n) " + n, x.when(0, n), in(n, 0, 1));
-            bad("fewest(n, 0) " + n, x.fewest(n, 0), in(n, 0, 3));
-            bad("fewest(0, n) " + n, x.fewest(0, n), in(n, 0, 2));
-            bad("bigger(n, 0) " + n, x.bigger(n, 0), in(n, 0, 3));
-            bad("bigger(0, n) " + n, x.bigger(0, n), in(n, 0, 3));
-            bad("tap(n, 0, 1, 1) " + n, x.tap(n, 0, 1, 1), in(n, 0, 3));
-            bad("tap(0, n, 1, 1) " + n, x.tap(0, n, 1, 1), in(n, 0, 59));
-            bad("tap(0, 0, n, 1) " + n, x.tap(0, 0, n, 1), in(n, 1, 60));
-            bad("tap(0, 0, 1, n) " + n, x.tap(0, 0, 1, n), in(n, 1, 99));
-            bad("tenths(n, 0) " + n, x.tenths(n, 0), in(n, 0, 5));
-            bad("tenths(1, n) " + n, x.tenths(1, n), in(n, 0, 10));
-            bad("told(n, 0, 0) " + n, x.told(n, 0, 0), any && in(n, 0, 3));
-            bad("told(0, n, 0) " + n, x.told(0, n, 0), in(n, 0, bathers - 1));
-            bad("told(0, 0, n) " + n, x.told(0, 0, n), any && in(n, 0, 1));
-            bad("looks(n) " + n, x.looks(n), in(n, 0, bathers - 1) || n == 6);
-            bad("count(n) " + n, x.count(n), in(n, 0, 6));
-        }
+        bad("write(" + n + ")", x.write(n, n), in(n, 1, 8));
+        x.wipe();
+        bad("bather(n, 0) " + n, x.bather(n, 0), in(n, 0, bathers - 1));
+        bad("bather(0, n) " + n, x.bather(0, n), any && in(n, 0, 7));
+        bad("drawn(0, n) " + n, x.drawn(0, n), in(n, -1, layers - 1));
+        bad("drawn(n, 0) " + n, x.drawn(n, 0), in(n, 0, x.drawn(11, 0) == BathNight.BAD ? layers == 1 && bathers == 1 ? 1 : 10 : 360));
+        bad("bath(n, true, 0) " + n, x.bath(n, true, 0), in(n, 0, bathers - 1));
+        bad("bath(0, true, n) " + n, x.bath(0, true, n), any && in(n, 0, 1));
+        bad("row(n, 0) " + n, x.row(n, 0), in(n, 0, bathers - 1));
+        bad("row(0, n) " + n, x.row(0, n), any && in(n, 0, bathers - 1));
+        bad("hot(n) " + n, x.hot(n), in(n, 0, 99));
+        bad("plan(n, true) " + n, x.plan(n, true), in(n, 0, 59));
+        bad("plan(n, false) " + n, x.plan(n, false), in(n, 0, 59));
+        bad("evening(n, 0, 0) " + n, x.evening(n, 0, 0), any && in(n, 0, 3));
+        bad("evening(0, n, 0) " + n, x.evening(0, n, 0), in(n, 0, bathers - 1));
+        bad("evening(0, 0, n) " + n, x.evening(0, 0, n), any && in(n, 0, 3));
+        bad("score(n, 0) " + n, x.score(n, 0), in(n, 0, 3));
+        bad("score(0, n) " + n, x.score(0, n), in(n, 0, 2));
+        bad("left(n, 0) " + n, x.left(n, 0), in(n, 0, 3));
+        bad("left(0, n) " + n, x.left(0, n), in(n, 0, layers - 1) || in(n, 6, 7));
+        bad("best(n) " + n, x.best(n), in(n, -1, bathers - 1));
+        bad("when(n, 0) " + n, x.when(n, 0), in(n, 0, 3));
+        bad("when(0, n) " + n, x.when(0, n), in(n, 0, 1));
+        bad("fewest(n, 0) " + n, x.fewest(n, 0), in(n, 0, 3));
+        bad("fewest(0, n) " + n, x.fewest(0, n), in(n, 0, 2));
+        bad("bigger(n, 0) " + n, x.bigger(n, 0), in(n, 0, 3));
+        bad("bigger(0, n) " + n, x.bigger(0, n), in(n, 0, 3));
+        bad("tap(n, 0, 1, 1) " + n, x.tap(n, 0, 1, 1), in(n, 0, 3));
+        bad("tap(0, n, 1, 1) " + n, x.tap(0, n, 1, 1), in(n, 0, 59));
+        bad("tap(0, 0, n, 1) " + n, x.tap(0, 0, n, 1), in(n, 1, 60));
+        bad("tap(0, 0, 1, n) " + n, x.tap(0, 0, 1, n), in(n, 1, 99));
+        bad("tenths(n, 0) " + n, x.tenths(n, 0), in(n, 0, 5));
+        bad("tenths(1, n) " + n, x.tenths(1, n), in(n, 0, 10));
+        bad("told(n, 0, 0) " + n, x.told(n, 0, 0), any && in(n, 0, 3));
+        bad("told(0, n, 0) " + n, x.told(0, n, 0), in(n, 0, bathers - 1));
+        bad("told(0, 0, n) " + n, x.told(0, 0, n), any && in(n, 0, 1));
+        bad("looks(n) " + n, x.looks(n), in(n, 0, bathers - 1) || n == 6);
+        bad("count(n) " + n, x.count(n), in(n, 0, 6));
         Check.due("count(0)", x.count(0), bathers);
         Check.due("count(1)", x.count(1), layers);
         Check.due("count(2)", x.count(2), steps);
